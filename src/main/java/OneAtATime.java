@@ -1376,7 +1376,7 @@ public final class OneAtATime {
                 for (int bit = 0; bit < list.width; bit++) {
                     int next = here ^ (1 << bit);
                     boolean free = next == other || timesShown[next] == 0 && list.inScope(next);
-                    if (distance[next] == NONE && free) {
+                    if (distance[next] == NONE && free && filled < MOST_WORDS) {
                         distance[next] = distance[here] + 1;
                         queue[filled] = next;
                         filled++;
@@ -1605,16 +1605,18 @@ public final class OneAtATime {
 
         private int freeBit(BitList path, int law) {
             int here = path.lastWord();
-            int level = Integer.bitCount(here);
             for (int bit = nextBit[path.size]; bit < path.width; bit++) {
                 int word = here ^ (1 << bit);
-                int rung = Math.min(level, Integer.bitCount(word));
-                boolean allowed = law != MONOTONE || highestRung[path.size] < rung + 2;
-                if (barred[word] == 0 && allowed) {
+                if (barred[word] == 0 && (law != MONOTONE || staysMonotone(path, word))) {
                     return bit;
                 }
             }
             return NONE;
+        }
+
+        private boolean staysMonotone(BitList path, int word) {
+            int rung = Math.min(Integer.bitCount(path.lastWord()), Integer.bitCount(word));
+            return highestRung[path.size] < rung + 2;
         }
 
         private void takeStep(BitList path, int bit) {
@@ -1690,7 +1692,7 @@ public final class OneAtATime {
         }
     }
 
-    /** Whether two lists are the same but for the names of bits, and for loops but for where and which way. */
+    /** Whether two lists are the same but for the names of bits; loops also from elsewhere, or back. */
     private static final class Likeness {
         private final int[] toTwo;
         private final int[] toOne;

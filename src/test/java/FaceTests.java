@@ -62,10 +62,7 @@ public final class FaceTests {
             fail("the class is not public and final");
         }
         Set<String> due = new TreeSet<>(Arrays.asList(FACE));
-        Set<String> names = new HashSet<>();
-        for (String method : FACE) {
-            names.add(method.substring(method.indexOf(' ') + 1, method.indexOf('(')));
-        }
+        Set<String> names = namesOfFace();
         Set<String> found = new TreeSet<>();
         for (Method method : face.getDeclaredMethods()) {
             if (Modifier.isPublic(method.getModifiers())) {
@@ -85,6 +82,14 @@ public final class FaceTests {
             fail("not just one public constructor without parameters");
         }
         looksAtFields(face);
+    }
+
+    private static Set<String> namesOfFace() {
+        Set<String> names = new HashSet<>();
+        for (String method : FACE) {
+            names.add(method.substring(method.indexOf(' ') + 1, method.indexOf('(')));
+        }
+        return names;
     }
 
     private static void looksAtFields(Class<?> face) throws Exception {
@@ -133,6 +138,9 @@ public final class FaceTests {
             for (Method method : nested.getDeclaredMethods()) {
                 if (method.getParameterCount() > 7) {
                     fail("more than seven parameters: " + method);
+                }
+                if (namesOfFace().contains(method.getName())) {
+                    fail("a method inside with a public one's name: " + method);
                 }
             }
         }
