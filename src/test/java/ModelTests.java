@@ -5,8 +5,11 @@ import java.util.Random;
 
 /** Long runs of mixed calls, each answer held against NaiveLists; the seeds are fixed. */
 public final class ModelTests {
-    private static final int RUNS = 1200;
-    private static final int CALLS = 480;
+    private static final int RUNS = 2500;
+    /** An object is good for 512 calls; behind this many there is room for a text and a look. */
+    private static final int CALLS = 460;
+    private static final int MOST_CALLS = 512;
+    private static final int OCTETS_A_LOOK = 12;
     private static final int[] ODD_NUMBERS = {
         -1, -2, -3, 3, 8, 9, 16, 64, 255, 256, 257, 50000, 50001,
         Integer.MIN_VALUE, Integer.MAX_VALUE, 1 << 30, 1431655765,
@@ -27,6 +30,7 @@ public final class ModelTests {
     private final OneAtATime x = new OneAtATime();
     private final NaiveLists due = new NaiveLists();
     private final StringBuilder log = new StringBuilder();
+    private int made = 0;
     private int wrong = 0;
 
     private ModelTests(long seed) {
@@ -60,7 +64,7 @@ public final class ModelTests {
             feeds(text(small));
             calls("told", new Object[] {slot}, reached);
         }
-        for (int i = 0; i < CALLS && wrong == 0; i++) {
+        while (made < CALLS && wrong == 0) {
             int kind = random.nextInt(24);
             if (kind == 0) {
                 feeds(random.nextInt(3) == 0 ? broken(text(small)) : text(small));
@@ -112,13 +116,20 @@ public final class ModelTests {
             compares("fault's place", x.fault(1), due.fault(1));
             int slot = random.nextInt(3);
             compares("tell", x.tell(slot, 0), due.tell(slot, 0));
-            for (int i = -1; i <= due.count(3); i++) {
-                compares("octet " + i, x.octet(i), due.octet(i));
+            compares("out", x.count(3), due.count(3));
+            for (int i = 0; i < OCTETS_A_LOOK; i++) {
+                int at = random.nextInt(due.count(3) + 2) - 1;
+                compares("octet " + at, x.octet(at), due.octet(at));
             }
         }
     }
 
     private void compares(String call, long got, long want) {
+        made++;
+        if (made > MOST_CALLS) {
+            wrong++;
+            log.append("BUT the object is used up\n");
+        }
         log.append(call).append(" -> ").append(want).append('\n');
         if (got != want) {
             wrong++;

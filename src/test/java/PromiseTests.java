@@ -23,7 +23,8 @@ public final class PromiseTests {
 
     private static String steps(OneAtATime x, int slot) {
         StringBuilder steps = new StringBuilder();
-        for (int i = 0; x.step(slot, i) >= 0; i++) {
+        int many = x.look(slot, 4);
+        for (int i = 0; i < many; i++) {
             steps.append(x.step(slot, i));
         }
         return steps.toString();
@@ -591,8 +592,9 @@ public final class PromiseTests {
     private static void rank() {
         OneAtATime x = new OneAtATime();
         for (int i = 0; i < 2000; i++) {
-            due("rank", x.rank(x.code(i)), i);
-            due("rank", x.rank(x.code(Integer.MAX_VALUE - i)), Integer.MAX_VALUE - i);
+            OneAtATime one = new OneAtATime();
+            due("rank", one.rank(one.code(i)), i);
+            due("rank", one.rank(one.code(Integer.MAX_VALUE - i)), Integer.MAX_VALUE - i);
         }
         due("rank", x.rank(1 << 30), Integer.MAX_VALUE);
         due("rank", x.rank(-1), -2);
@@ -758,27 +760,34 @@ public final class PromiseTests {
         due("levels", with("bits 2 levels 0 to 1 start 0:0101;").evenest(0, 0), -6);
         OneAtATime line = with("bits 2 start 0:" + "0".repeat(17) + ";");
         due("17 steps ahead of no loop", line.evenest(0, 0), -5);
-        dueEvenest(with("bits 4 start 0:0102010301020103;"));
+        dueEvenest("bits 4 start 0:0102010301020103;");
         OneAtATime other = with(GRAY3);
         for (int place = 0; place < 8; place++) {
             other.rolls(0, 1);
-            dueEvenest(other);
+            dueEvenest("bits 3 start 0:" + steps(other, 0) + ";");
             other.swaps(0, place % 3, 2);
-            dueEvenest(other);
+            dueEvenest("bits 3 start 0:" + steps(other, 0) + ";");
         }
         for (int law = 1; law <= 3; law += 2) {
             OneAtATime found = with("bits 4 start 0:;");
             found.finds(0, law, 50000);
-            dueEvenest(found);
+            dueEvenest("bits 4 start 0:" + steps(found, 0) + ";");
             found.reverse(0);
-            dueEvenest(found);
+            dueEvenest("bits 4 start 0:" + steps(found, 0) + ";");
         }
     }
 
-    private static void dueEvenest(OneAtATime x) {
+    /** All cuts are tried, a hundred with an object, which is good for 512 calls alone. */
+    private static void dueEvenest(String text) {
+        OneAtATime x = with(text);
         long least = x.evenest(0, 0);
         long cuts = x.evenest(0, 1);
-        for (long some = 0; some < 1 << x.look(0, 4) - 1; some++) {
+        due("by these cuts", unevenBy(x, cuts), least);
+        long all = 1L << x.look(0, 4) - 1;
+        for (long some = 0; some < all; some++) {
+            if (some % 100 == 0) {
+                x = with(text);
+            }
             if (Long.bitCount(some) % 2 == 0) {
                 int uneven = unevenBy(x, some);
                 if (uneven < least || uneven == least && some < cuts) {
@@ -786,7 +795,6 @@ public final class PromiseTests {
                 }
             }
         }
-        due("by these cuts", unevenBy(x, cuts), least);
     }
 
     private static int unevenBy(OneAtATime x, long cuts) {

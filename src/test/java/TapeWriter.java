@@ -23,7 +23,8 @@ final class TapeWriter {
 
     static String out(OneAtATime x) {
         StringBuilder text = new StringBuilder();
-        for (int i = 0; x.octet(i) != OneAtATime.NONE; i++) {
+        int many = x.count(3);
+        for (int i = 0; i < many; i++) {
             text.append((char) x.octet(i));
         }
         return text.toString();
