@@ -473,7 +473,7 @@ public final class OneAtATime {
             return REFUSED;
         }
         draft.beginLike(list, list.lastWord());
-        draft.pushBack(list, 0, list.size, 0);
+        draft.pushBack(list, 0, list.size);
         settle(slot);
         return list.words[0];
     }
@@ -672,9 +672,9 @@ public final class OneAtATime {
         }
 
         /** The same steps the other way, the last one first. */
-        void pushBack(BitList other, int from, int to, int more) {
+        void pushBack(BitList other, int from, int to) {
             for (int i = Math.min(to, other.size) - 1; i >= from && i >= 0; i--) {
-                push(other.steps[i] + more);
+                push(other.steps[i]);
             }
         }
 
@@ -1444,7 +1444,7 @@ public final class OneAtATime {
                 if (last || isCut(cuts, place)) {
                     made.pushOn(loop, from, place, 0);
                     made.push(one);
-                    made.pushBack(loop, from, place, 0);
+                    made.pushBack(loop, from, place);
                     made.push(other);
                     made.pushOn(loop, from, place, 0);
                     if (!last) {
@@ -1457,7 +1457,7 @@ public final class OneAtATime {
                 }
             }
             made.push(loop.width);
-            made.pushBack(loop, 0, loop.size - 1, 0);
+            made.pushBack(loop, 0, loop.size - 1);
             made.push(loop.width + 1);
         }
 
@@ -1480,7 +1480,7 @@ public final class OneAtATime {
                 if (i % 2 == 0) {
                     made.pushOn(one, 0, one.size, 0);
                 } else {
-                    made.pushBack(one, 0, one.size, 0);
+                    made.pushBack(one, 0, one.size);
                 }
                 made.pushOn(two, i, i + 1, one.width);
             }
@@ -1490,7 +1490,7 @@ public final class OneAtATime {
             made.beginLike(list, list.words[0]);
             made.pushOn(list, 0, i, 0);
             made.push(Integer.numberOfTrailingZeros(list.words[i] ^ list.words[j]));
-            made.pushBack(list, i + 1, j, 0);
+            made.pushBack(list, i + 1, j);
             made.push(Integer.numberOfTrailingZeros(list.words[i + 1] ^ list.words[j + 1]));
             made.pushOn(list, j + 1, list.size, 0);
         }

@@ -17,12 +17,14 @@ final class ActEdges {
         Edges.stays("a call on " + text, Edges.lists(text), call, want);
     }
 
-    /** A call on slot 0 with one list, that is an act and makes it another one. */
+    /** A call on slot 0 that is an act and makes its list another one, whatever came since. */
     private static void becomes(String text, Edges.Call call, long want, String list) {
-        Edges.isAct("a call on " + text, Edges.lists(text), call, want);
-        OneAtATime x = Edges.with(text);
+        Edges.Setup made = Edges.lists(text, "bits 5 levels 1 to 4 start 9:43210;");
+        Edges.isAct("a call on " + text, made, call, want);
+        OneAtATime x = Edges.fresh(made);
         call.on(x);
         Edges.dueText("what became of " + text, Edges.list(x, 0), list);
+        Edges.dueText("the other slot", Edges.list(x, 1), "5 1 4 9:43210");
     }
 
     // ---- promise 28
@@ -181,10 +183,26 @@ final class ActEdges {
         leaves("bits 3 start 7:;", x -> x.finds(0, 2, 32), -3);
         leaves("bits 3 start 7:;", x -> x.finds(0, 2, 33), -1);
         becomes("bits 3 start 0:;", x -> x.finds(0, 2, 7), 7, "3 0 3 0:0102010");
-        OneAtATime four = Edges.with("bits 4 start 0:;");
-        Edges.due("four bits", four.finds(0, 2, 50000), 15);
-        Edges.due("monotone", four.is(0, 3), 1);
-        Edges.due("full", four.is(0, 2), 1);
+        leaves("bits 3 start 5:;", x -> x.finds(0, 2, 14), -3);
+        becomes("bits 3 start 5:;", x -> x.finds(0, 2, 15), 7, "3 0 3 5:0121012");
+        leaves("bits 4 start 0:;", x -> x.finds(0, 2, 23), -3);
+        becomes("bits 4 start 0:;", x -> x.finds(0, 2, 24), 15, "4 0 4 0:010201030201020");
+        leaves("bits 4 start 3:;", x -> x.finds(0, 2, 66), -3);
+        becomes("bits 4 start 3:;", x -> x.finds(0, 2, 67), 15, "4 0 4 3:010201310201023");
+        leaves("bits 4 start 15:;", x -> x.finds(0, 2, 195), -3);
+        leaves("bits 4 start 15:;", x -> x.finds(0, 2, 196), -1);
+    }
+
+    static void p29_asIfThereWereNoSearchAhead() {
+        for (int law = 0; law < 4; law++) {
+            OneAtATime x = Edges.with("bits 2 levels 0 to 1 start 0:;", "bits 4 start 1:;",
+                "bits 2 start 0:;");
+            Edges.due("none", x.finds(0, law, 50), -1);
+            Edges.due("too long", x.finds(1, law, 9), -3);
+            Edges.due("none such", x.tracks(1, 4, 1, 50), -1);
+            Edges.due("just enough", x.finds(2, law, 3), law % 2 == 1 ? 4 : 3);
+            Edges.due("just enough again", x.finds(2, law, 3), law % 2 == 1 ? 4 : 3);
+        }
     }
 
     static void p29_theSameAgainIsNoAct() {
@@ -348,6 +366,26 @@ final class ActEdges {
         // 3 and 5 are tried; from both there is but the start, it rolled, and 7, itself rolled
         leaves("bits 3 start 1:;", x -> x.tracks(0, 4, 1, 1), -3);
         leaves("bits 3 start 1:;", x -> x.tracks(0, 4, 1, 2), -1);
+        // of the words with two bits of four, 3 rolled is all that is not itself rolled: from 3 to
+        // 7 and 11, from 9 to 11 and 13, and there it ends
+        leaves("bits 4 start 1:;", x -> x.tracks(0, 4, 1, 5), -3);
+        leaves("bits 4 start 1:;", x -> x.tracks(0, 4, 1, 6), -1);
+    }
+
+    static void p34_theLeastBitFirst() {
+        // 6 to 7 to 3 is tried first, and is the one
+        leaves("bits 4 start 6:;", x -> x.tracks(0, 2, 3, 1), -3);
+        becomes("bits 4 start 6:;", x -> x.tracks(0, 2, 3, 2), 8, "4 0 4 6:02312013");
+    }
+
+    static void p34_asIfThereWereNoSearchAhead() {
+        OneAtATime x = Edges.with("bits 4 start 1:;", "bits 4 start 6:;",
+            "bits 4 levels 2 to 2 start 6:;");
+        Edges.due("none such", x.tracks(0, 4, 1, 50), -1);
+        Edges.due("none", x.finds(2, 0, 50), -1);
+        Edges.due("too long", x.finds(0, 1, 9), -3);
+        Edges.due("just enough", x.tracks(1, 2, 3, 2), 8);
+        Edges.due("just enough again", x.tracks(1, 2, 3, 2), 8);
     }
 
     static void p34_aStartThatIsItselfRolled() {
@@ -425,6 +463,16 @@ final class ActEdges {
         Edges.dueText("list", Edges.list(x, 2), "5 0 5 23:423");
         Edges.due("of the one alone", x.product(1, 0, 2), 3);
         Edges.dueText("list", Edges.list(x, 2), "5 0 5 29:201");
+    }
+
+    static void p35_onAndBackInTurn() {
+        OneAtATime x = Edges.with("bits 2 start 0:01;", "bits 1 start 0:0;");
+        for (int steps = 1; steps <= 4; steps++) {
+            String[] want = {"01210", "01210201", "01210201210", "01210201210201"};
+            Edges.due("product", x.product(0, 1, 2), 2 + 3 * steps);
+            Edges.dueText("steps", Edges.steps(x, 2), want[steps - 1]);
+            x.adds(1, 0);
+        }
     }
 
     static void p35_theLevelsBecomeAllAndTheStartIsBoth() {

@@ -144,6 +144,10 @@ final class QuestionEdges {
         dueIs("bits 4 start 0:000;", 4, 0);
         dueIs("bits 4 start 0:01;", 4, 1);
         dueIs("bits 4 start 0:010;", 4, 0);
+        dueIs("bits 4 start 0:101;", 4, 0);
+        dueIs("bits 4 start 0:303;", 4, 0);
+        dueIs("bits 8 start 0:707;", 4, 0);
+        dueIs("bits 8 start 255:0123456701234567;", 4, 1);
         // six steps of the ladder end two bits from the start, seven one, eight come round
         dueIs("bits 4 start 0:012301;", 4, 1);
         dueIs("bits 4 start 0:0123012;", 4, 0);
@@ -639,6 +643,17 @@ final class QuestionEdges {
         dueSpread("bits 7 start 0:01234560123456;", 7);
     }
 
+    static void p23_asIfNoneWereAskedAhead() {
+        OneAtATime x = Edges.with(Edges.GRAY3, Edges.LADDER3, "bits 3 start 0:000;");
+        int[] want = {1, 3, -1};
+        for (int first = 0; first < 3; first++) {
+            for (int second = 0; second < 3; second++) {
+                Edges.due("spread", x.spread(first), want[first]);
+                Edges.due("spread", x.spread(second), want[second]);
+            }
+        }
+    }
+
     static void p23_ofALoopTheNearerWay() {
         // seven steps of the ladder of four end beside the start, far off as places go
         dueSpread("bits 4 start 0:0123012;", 1);
@@ -673,6 +688,13 @@ final class QuestionEdges {
         Edges.due("up", x.climbs(1, 0, 1), 1);
         Edges.due("not back", x.climbs(1, 0, 0), 0);
         Edges.due("not higher", x.climbs(1, 1, 1), 0);
+        // levels 0 1 2 1: the second and third are between the same two
+        OneAtATime four = Edges.with("bits 3 start 0:010;");
+        int[][] want = {{0, 1}, {1, 1}, {0, 0}};
+        for (int l = 0; l < 3; l++) {
+            Edges.due("back", four.climbs(0, l, 0), want[l][0]);
+            Edges.due("up", four.climbs(0, l, 1), want[l][1]);
+        }
         Edges.due("the most", x.climbs(2, 0, 1), 128);
         Edges.due("the most", x.climbs(2, 0, 0), 128);
     }
@@ -981,5 +1003,7 @@ final class QuestionEdges {
         dueAlike("bits 4 start 0:01123032;", "bits 4 start 0:01123023;", 0);
         dueAlike("bits 2 start 0:0011;", "bits 2 start 0:0110;", 1);
         dueAlike("bits 2 start 0:0011;", "bits 2 start 0:0101;", 0);
+        dueAlike(Edges.reflected(8), Edges.turning(8, 256), 0);
+        dueAlike(Edges.reflected(8), Edges.reflected(8), 1);
     }
 }

@@ -357,6 +357,13 @@ final class TapeEdges {
         dueFault("bitss 3 start 0:;", 1, 0);
         dueFault("bitsstart 3 start 0:;", 1, 0);
         dueFault("bi ts 3 start 0:;", 1, 0);
+        dueFault("cits 3 start 0:;", 1, 0);
+        dueFault("bitt 3 start 0:;", 1, 0);
+        dueFault("bits 3 ttart 0:;", 1, 7);
+        dueFault("bits 3 starx 0:;", 1, 7);
+        dueFault("bits 3 mevels 0 to 3 start 0:;", 1, 7);
+        dueFault("bits 3 levels 0 so 3 start 0:;", 1, 16);
+        dueFault("bits 3 levels 0 ti 3 start 0:;", 1, 16);
         dueFault("bits 3 star 0:;", 1, 7);
         dueFault("bits 3 starts 0:;", 1, 7);
         dueFault("bits 3 level 0 to 3 start 0:;", 1, 7);
