@@ -29,6 +29,7 @@ final class ActEdges {
 
     // ---- promise 28
 
+    @Says("-2.")
     static void p28_needsAList() {
         for (int what = 0; what < 3; what++) {
             int made = what;
@@ -36,6 +37,7 @@ final class ActEdges {
         }
     }
 
+    @Says("-2.")
     static void p28_whatsThatAreNone() {
         refuses("makes", (x, what) -> x.makes(0, what), Edges.LEAST, -1, 3, Edges.MOST);
     }
@@ -66,6 +68,7 @@ final class ActEdges {
         becomes("bits 3 start 5:01;", x -> x.makes(0, 2), 4, "3 0 3 5:0101");
     }
 
+    @Says("(-2, if these would be more than 256).")
     static void p28_twiceWouldBeMoreThan256() {
         leaves(Edges.turning(2, 129), x -> x.makes(0, 2), -2);
         leaves(Edges.turning(2, 255), x -> x.makes(0, 2), -2);
@@ -95,6 +98,7 @@ final class ActEdges {
         refuses("finds", (x, law) -> x.finds(0, law, 100), Edges.LEAST, -1, 4, Edges.MOST);
     }
 
+    @Says("-2 (tries 1 .. 50000).")
     static void p29_triesThatAreNone() {
         for (int law = 0; law < 4; law++) {
             int by = law;
@@ -104,6 +108,7 @@ final class ActEdges {
         becomes("bits 1 start 0:;", x -> x.finds(0, 0, 50000), 1, "1 0 1 0:0");
     }
 
+    @Says("ahead of NONE, -3,")
     static void p29_wrongNumbersAheadOfNoneAndTooLong() {
         String outside = "bits 2 levels 0 to 1 start 3:;";
         leaves(outside, x -> x.finds(0, 0, 0), -2);
@@ -120,6 +125,7 @@ final class ActEdges {
         }
     }
 
+    @Says("(LAWS 1, 3: a SCOPE of one WORD: none.)")
     static void p29_aScopeOfOneWord() {
         leaves("bits 4 levels 0 to 0 start 0:00;", x -> x.finds(0, 1, 1), -1);
         leaves("bits 4 levels 0 to 0 start 0:00;", x -> x.finds(0, 3, 1), -1);
@@ -227,6 +233,7 @@ final class ActEdges {
         extendLeaves("bits 1 start 1:00;", -2, 1L, 2L, 3L, -1L, Long.MIN_VALUE, Long.MAX_VALUE);
     }
 
+    @Says("-2: cuts at no places (0 .. STEPS less 2),")
     static void p30_cutsBehindTheFirstPlaceTheLastButOneAndBeyond() {
         String text = "bits 2 start 0:0101;";
         becomes(text, x -> x.extend(0, 0L), 4, "4 0 4 0:" + "01020103010" + "2" + "010" + "3");
@@ -236,6 +243,7 @@ final class ActEdges {
         extendLeaves(text, -2, 9L, 10L, 12L, 15L, 17L, 1L | 1L << 32, 1L | 1L << 63, -1L);
     }
 
+    @Says("or not evenly many.")
     static void p30_cutsNotEvenlyMany() {
         extendLeaves("bits 2 start 0:0101;", -2, 1L, 2L, 4L, 7L);
     }
@@ -253,6 +261,7 @@ final class ActEdges {
         extendLeaves(text, -2, 1L | 1L << 63, 1L << 62, (1L << 63) - 1, -1L, 3L << 62);
     }
 
+    @Says("-5: N is above 6;")
     static void p30_aboveSixBits() {
         Edges.due("5", Edges.with(Edges.reflected(5)).extend(0, 0L), 7);
         Edges.due("6", Edges.with(Edges.reflected(6)).extend(0, 0L), 8);
@@ -260,6 +269,7 @@ final class ActEdges {
         extendLeaves(Edges.reflected(8), -5, 0L, 3L, 1L | 1L << 63, -1L);
     }
 
+    @Says("-6: it is no FULL LOOP with A 0, B N;")
     static void p30_noFullLoopOfAllLevels() {
         String[] texts = {
             "bits 2 start 0:;", "bits 2 start 0:010;", "bits 2 start 0:00;",
@@ -272,6 +282,7 @@ final class ActEdges {
         }
     }
 
+    @Says("-5, -6.")
     static void p30_wrongCutsAheadOfAboveSixAndNoLoop() {
         extendLeaves(Edges.reflected(7), -2, 1L, 1L << 63);
         extendLeaves("bits 7 start 0:;", -2, 1L, 3L);
@@ -293,23 +304,27 @@ final class ActEdges {
         Edges.needsList((x, slot) -> x.tracks(slot, 2, 1, 1));
     }
 
+    @Says("tries 50000 at most;")
     static void p34_triesThatAreNone() {
         refuses("tries", (x, tries) -> x.tracks(0, 2, 1, tries), NO_TRIES);
         leaves("bits 3 start 1:;", x -> x.tracks(0, 2, 1, 1), -3);
         Edges.due("50000", Edges.with("bits 3 start 1:;").tracks(0, 2, 1, 50000), 6);
     }
 
+    @Says("p, tries 1 and more,")
     static void p34_pBelowOne() {
         refuses("p", (x, p) -> x.tracks(0, p, 1, 1), Edges.LEAST, -1, 0);
         leaves("bits 3 start 1:;", x -> x.tracks(0, 1, 1, 1), -1);
     }
 
+    @Says("-2 (N 2 and more;")
     static void p34_oneBitAlone() {
         leaves("bits 1 start 1:;", x -> x.tracks(0, 1, 1, 1), -2);
         leaves("bits 1 start 1:;", x -> x.tracks(0, 1, 0, 1), -2);
         leaves("bits 2 start 1:;", x -> x.tracks(0, 1, 1, 1), -1);
     }
 
+    @Says("r 1 .. N less 1, without a divisor above 1 in common with N).")
     static void p34_rFromOneToNLessOneWithoutADivisorInCommon() {
         int[][] good = {
             {1}, {1, 2}, {1, 3}, {1, 2, 3, 4}, {1, 5}, {1, 2, 3, 4, 5, 6}, {1, 3, 5, 7},
@@ -330,6 +345,7 @@ final class ActEdges {
         }
     }
 
+    @Says("-5: N times p is above 256;")
     static void p34_nTimesPAbove256() {
         for (int n = 2; n <= 8; n++) {
             int most = 256 / n;
@@ -408,6 +424,7 @@ final class ActEdges {
         Edges.needsList((x, slot) -> x.product(0, slot, 1));
     }
 
+    @Says("-2: there are none such.")
     static void p35_noSuchSlotToComeInto() {
         refuses("to", (x, to) -> x.product(0, 2, to), Edges.LEAST, -1, 3, Edges.MOST);
         for (int to = 0; to < 3; to++) {
@@ -416,6 +433,7 @@ final class ActEdges {
         }
     }
 
+    @Says("-5: N would be above 8,")
     static void p35_bitsAbove8() {
         int[][] good = {{1, 7}, {7, 1}, {4, 4}, {3, 5}};
         int[][] tooMany = {{1, 8}, {8, 1}, {4, 5}, {5, 4}, {8, 8}};
@@ -431,6 +449,7 @@ final class ActEdges {
         }
     }
 
+    @Says("STEPS above 256;")
     static void p35_stepsAbove256() {
         int[][] good = {{0, 256, 256}, {256, 0, 256}, {1, 127, 255}, {127, 1, 255}, {15, 15, 255},
             {0, 255, 255}, {255, 0, 255}, {0, 0, 0}};
@@ -496,6 +515,7 @@ final class ActEdges {
         Edges.needsList((x, slot) -> x.twists(slot, 0, 3));
     }
 
+    @Says("-2: there are none such.")
     static void p36_placesThatAreNone() {
         int[][] places = {
             {-1, 3}, {Edges.LEAST, 3}, {-1, -1}, {0, 0}, {3, 3}, {4, 3}, {7, 0}, {0, 8}, {7, 8},
@@ -550,6 +570,7 @@ final class ActEdges {
         Edges.needsList((x, slot) -> x.detour(slot, 0, 1));
     }
 
+    @Says("-2: there are none such.")
     static void p38_stepsAndBitsThatAreNone() {
         refuses("step", (x, i) -> x.detour(0, i, 0), Edges.LEAST, -1, 8, Edges.MOST);
         refuses("bit", (x, bit) -> x.detour(0, 0, bit), Edges.LEAST, -1, 3, Edges.MOST);
@@ -562,6 +583,7 @@ final class ActEdges {
         becomes("bits 1 start 0:0;", x -> x.detour(0, 0, 0), 3, "1 0 1 0:000");
     }
 
+    @Says("-5: there would be more than 256;")
     static void p38_moreThan256() {
         Edges.due("253", Edges.with(Edges.turning(1, 253)).detour(0, 0, 0), 255);
         becomes(Edges.turning(2, 254), x -> x.detour(0, 253, 1), 256,
@@ -579,6 +601,7 @@ final class ActEdges {
 
     // ---- promise 39
 
+    @Says("-2.")
     static void p39_needsAList() {
         Edges.needsList((x, slot) -> x.mirror(slot));
     }
@@ -603,6 +626,7 @@ final class ActEdges {
         Edges.needsList((x, slot) -> x.starts(slot, 3));
     }
 
+    @Says("-2.")
     static void p40_wordsThatAreNone() {
         refuses("starts", (x, word) -> x.starts(0, word), Edges.LEAST, -1, 8, Edges.MOST);
         for (int n = 1; n <= 8; n++) {
@@ -628,6 +652,7 @@ final class ActEdges {
         Edges.needsList((x, slot) -> x.swaps(slot, 0, 1));
     }
 
+    @Says("-2.")
     static void p41_bitsThatAreNone() {
         refuses("a", (x, bit) -> x.swaps(0, bit, 0), Edges.LEAST, -1, 3, Edges.MOST);
         refuses("b", (x, bit) -> x.swaps(0, 0, bit), Edges.LEAST, -1, 3, Edges.MOST);
@@ -661,6 +686,7 @@ final class ActEdges {
 
     // ---- promise 42
 
+    @Says("-2.")
     static void p42_needsAList() {
         Edges.needsList((x, slot) -> x.reverse(slot));
     }
@@ -684,6 +710,7 @@ final class ActEdges {
         Edges.needsList((x, slot) -> x.rolls(slot, 1));
     }
 
+    @Says("-2.")
     static void p43_placesThatAreNone() {
         refuses("place", (x, place) -> x.rolls(0, place), Edges.LEAST, -1, 8, 9, Edges.MOST);
         leaves("bits 3 start 0:;", x -> x.rolls(0, 0), -2);
@@ -718,6 +745,7 @@ final class ActEdges {
         Edges.needsList((x, slot) -> x.adds(slot, 1));
     }
 
+    @Says("-2.")
     static void p44_bitsThatAreNone() {
         refuses("bit", (x, bit) -> x.adds(0, bit), Edges.LEAST, -1, 3, Edges.MOST);
         for (int n = 1; n <= 8; n++) {
@@ -728,6 +756,7 @@ final class ActEdges {
         }
     }
 
+    @Says("-5: there are 256;")
     static void p44_thereAre256() {
         Edges.due("254", Edges.with(Edges.turning(2, 254)).adds(0, 1), 2);
         becomes(Edges.turning(2, 255), x -> x.adds(0, 1), 3,
@@ -750,6 +779,7 @@ final class ActEdges {
         Edges.needsList((x, slot) -> x.cuts(slot, 1));
     }
 
+    @Says("-2 (n 1 .. as many as there are).")
     static void p45_fewerThanOneAndMoreThanThereAre() {
         refuses("cuts", (x, n) -> x.cuts(0, n), Edges.LEAST, -1, 0, 9, Edges.MOST);
         leaves("bits 3 start 0:;", x -> x.cuts(0, 0), -2);
@@ -766,6 +796,7 @@ final class ActEdges {
 
     // ---- promise 47
 
+    @Says("-2: no such SLOT.")
     static void p47_noSuchSlot() {
         for (int slot : new int[] {Edges.LEAST, -1, 3, Edges.MOST}) {
             Edges.stays("drops " + slot, x -> x.drops(slot), -2);
@@ -793,6 +824,7 @@ final class ActEdges {
 
     // ---- promise 48
 
+    @Says("NONE: none.")
     static void p48_none() {
         Edges.stays("undo", x -> { }, OneAtATime::undo, -1);
         OneAtATime x = Edges.with(Edges.GRAY3);

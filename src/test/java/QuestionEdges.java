@@ -14,6 +14,7 @@ final class QuestionEdges {
 
     // ---- promise 7
 
+    @Says({"-2.", "-2 (where nothing else is told): there is no such SLOT, LIST in it,"})
     static void p07_needsAList() {
         for (int what = 0; what < 8; what++) {
             int asked = what;
@@ -21,6 +22,7 @@ final class QuestionEdges {
         }
     }
 
+    @Says({"-2.", "what, number as told;"})
     static void p07_whatsThatAreNone() {
         refuses("look", (x, what) -> x.look(0, what), Edges.LEAST, -1, 8, Edges.MOST);
     }
@@ -45,6 +47,7 @@ final class QuestionEdges {
         dueLook("bits 8 levels 8 to 8 start 0:;", 8, 8, 8, 0, 0, 1, 1, 1);
     }
 
+    @Says("SHOWN places: all; of a LOOP all but the last.")
     static void p07_shownPlacesOfALoopAndOfNone() {
         dueLook("bits 2 start 0:0;", 2, 0, 2, 0, 1, 2, 2, 4);
         dueLook("bits 2 start 0:00;", 2, 0, 2, 0, 2, 2, 2, 4);
@@ -65,6 +68,7 @@ final class QuestionEdges {
 
     // ---- promise 8
 
+    @Says("-2.")
     static void p08_needsAList() {
         for (int what = 0; what < 7; what++) {
             int asked = what;
@@ -72,6 +76,7 @@ final class QuestionEdges {
         }
     }
 
+    @Says("-2.")
     static void p08_whatsThatAreNone() {
         refuses("is", (x, what) -> x.is(0, what), Edges.LEAST, -1, 7, Edges.MOST);
     }
@@ -80,6 +85,7 @@ final class QuestionEdges {
         Edges.due("is " + what + " of " + text, Edges.with(text).is(0, what), want);
     }
 
+    @Says("LOOP: there are STEPS, and the WORD behind the last one is the START.")
     static void p08_aLoopHasStepsAndEndsAtItsStart() {
         dueIs("bits 3 start 5:;", 0, 0);
         dueIs("bits 3 start 5:0;", 0, 0);
@@ -90,6 +96,7 @@ final class QuestionEdges {
         dueIs(Edges.turning(1, 256), 0, 1);
     }
 
+    @Says("CLEAN: no WORD is SHOWN twice.")
     static void p08_cleanLooksAtShownPlacesAlone() {
         dueIs("bits 2 start 0:;", 1, 1);
         dueIs("bits 2 start 0:00;", 1, 1);
@@ -109,6 +116,7 @@ final class QuestionEdges {
         dueIs("bits 8 levels 8 to 8 start 255:;", 2, 1);
     }
 
+    @Says("FULL: each WORD of the SCOPE is SHOWN once,")
     static void p08_fullLacksNoneAndShowsNoneTwice() {
         dueIs("bits 3 start 0:010201;", 2, 0);
         dueIs("bits 3 start 0:0102010;", 2, 1);
@@ -118,6 +126,7 @@ final class QuestionEdges {
         dueIs(Edges.reflected(8), 2, 1);
     }
 
+    @Says("no other one.")
     static void p08_fullShowsNoWordBesidesTheScope() {
         dueIs("bits 2 levels 0 to 1 start 1:0;", 2, 0);
         dueIs("bits 2 levels 0 to 1 start 1:01;", 2, 1);
@@ -126,6 +135,8 @@ final class QuestionEdges {
         dueIs("bits 2 levels 1 to 2 start 0:010;", 2, 0);
     }
 
+    @Says("MONOTONE: no STEP between LEVELS k and k + 1 comes behind one between LEVELS k + 2"
+        + " and k + 3 or above.")
     static void p08_monotoneOneLevelLowerIsGoodTwoIsNot() {
         dueIs("bits 4 start 0:;", 3, 1);
         dueIs("bits 4 start 0:0110;", 3, 1);
@@ -137,6 +148,8 @@ final class QuestionEdges {
         dueIs("bits 3 start 7:012;", 3, 0);
     }
 
+    @Says("SNAKE: CLEAN, and WORDS at SHOWN places that do not follow each other (of a LOOP the"
+        + " last and the first do) have two bits unlike or more.")
     static void p08_snakeWordsThatDoNotFollowEachOther() {
         dueIs("bits 4 start 0:;", 4, 1);
         dueIs("bits 4 start 0:0;", 4, 1);
@@ -156,6 +169,7 @@ final class QuestionEdges {
         dueIs(Edges.GRAY3, 4, 0);
     }
 
+    @Says("OPPOSITE: a LOOP of evenly many STEPS; WORDS half of them apart have all bits unlike.")
     static void p08_oppositeHalfWayRound() {
         dueIs("bits 1 start 0:;", 5, 0);
         dueIs("bits 1 start 0:0;", 5, 0);
@@ -171,6 +185,7 @@ final class QuestionEdges {
         dueIs("bits 8 start 170:0123456701234567;", 5, 1);
     }
 
+    @Says("ONE TRACK: a LOOP, each TRACK is that of bit 0 rolled")
     static void p08_oneTrackOfALoopAlone() {
         dueIs("bits 1 start 0:;", 6, 0);
         dueIs("bits 1 start 0:0;", 6, 0);
@@ -192,10 +207,12 @@ final class QuestionEdges {
         Edges.needsList((x, slot) -> x.word(slot, 1000));
     }
 
+    @Says("-2 (place below 0).")
     static void p09_belowZero() {
         refuses("word", (x, place) -> x.word(0, place), Edges.LEAST, -2, -1);
     }
 
+    @Says("NONE: not so many;")
     static void p09_theFirstTheLastAndNotSoMany() {
         OneAtATime x = Edges.with("bits 3 start 5:01;", "bits 8 start 200:;",
             Edges.turning(8, 256));
@@ -218,10 +235,12 @@ final class QuestionEdges {
         Edges.needsList((x, slot) -> x.step(slot, 1000));
     }
 
+    @Says("-2 (i below 0, too).")
     static void p10_belowZero() {
         refuses("step", (x, i) -> x.step(0, i), Edges.LEAST, -2, -1);
     }
 
+    @Says("NONE: not so many;")
     static void p10_theFirstTheLastAndNotSoMany() {
         OneAtATime x = Edges.with("bits 8 start 5:71;", "bits 8 start 200:;",
             "bits 8 start 0:" + "0".repeat(255) + "7;");
@@ -243,6 +262,7 @@ final class QuestionEdges {
         Edges.needsList((x, slot) -> x.where(slot, 0, 1000));
     }
 
+    @Says({"WORD (0 .. 2 to the N less 1),", "ahead of NONE,"})
     static void p11_wordsThatAreNoneAheadOfNone() {
         refuses("where", (x, word) -> x.where(0, word, 0), Edges.LEAST, -1, 8, Edges.MOST);
         refuses("where", (x, word) -> x.where(0, word, 1000), -1, 8);
@@ -253,11 +273,13 @@ final class QuestionEdges {
         }
     }
 
+    @Says("-2 (k below 0, too).")
     static void p11_kBelowZero() {
         refuses("where", (x, k) -> x.where(0, 0, k), Edges.LEAST, -1);
         Edges.due("a word not shown", Edges.with("bits 2 start 0:;").where(0, 3, -1), -2);
     }
 
+    @Says("NONE: not so many;")
     static void p11_notSoMany() {
         OneAtATime x = Edges.with("bits 2 start 0:000;", "bits 2 start 0:00;");
         Edges.due("where", x.where(0, 0, 0), 0);
@@ -279,10 +301,12 @@ final class QuestionEdges {
         Edges.needsList((x, slot) -> x.lacks(slot, 1000));
     }
 
+    @Says("-2 (k below 0, too).")
     static void p12_kBelowZero() {
         refuses("lacks", (x, k) -> x.lacks(0, k), Edges.LEAST, -2, -1);
     }
 
+    @Says("NONE: not so many;")
     static void p12_allNoneAndOne() {
         Edges.due("a full one", Edges.with(Edges.GRAY3).lacks(0, 0), -1);
         OneAtATime x = Edges.with("bits 3 start 0:010201;", "bits 8 start 0:;",
@@ -312,10 +336,12 @@ final class QuestionEdges {
 
     // ---- promise 13
 
+    @Says("-2.")
     static void p13_needsAList() {
         Edges.asksAList((x, slot) -> x.turned(slot, 0));
     }
 
+    @Says({"-2.", "bit,"})
     static void p13_bitsThatAreNone() {
         refuses("turned", (x, bit) -> x.turned(0, bit), Edges.LEAST, -1, 3, Edges.MOST);
         Edges.due("eight", Edges.with("bits 8 start 0:7;").turned(0, 7), 1);
@@ -335,12 +361,14 @@ final class QuestionEdges {
         Edges.asksAList((x, slot) -> x.order(slot, 0));
     }
 
+    @Says("-2 (k 0 .. N less 1).")
     static void p14_kThatIsNone() {
         refuses("order", (x, k) -> x.order(0, k), Edges.LEAST, -1, 3, Edges.MOST);
         Edges.due("one bit", Edges.with("bits 1 start 0:;").order(0, 0), 0);
         Edges.due("one bit", Edges.with("bits 1 start 0:;").order(0, 1), -2);
     }
 
+    @Says("of like ones the lesser.")
     static void p14_ofLikeOnesTheLesser() {
         OneAtATime x = Edges.with("bits 8 start 0:;", "bits 8 start 0:77665;",
             "bits 4 start 0:0123;");
@@ -355,6 +383,7 @@ final class QuestionEdges {
 
     // ---- promise 15
 
+    @Says("-2.")
     static void p15_needsAList() {
         Edges.asksAList((x, slot) -> x.uneven(slot));
     }
@@ -374,12 +403,14 @@ final class QuestionEdges {
         Edges.asksAList((x, slot) -> x.gap(slot, 1));
     }
 
+    @Says("-2.")
     static void p16_bitsThatAreNone() {
         refuses("gap", (x, bit) -> x.gap(0, bit), Edges.LEAST, -3, -2, 3, Edges.MOST);
         Edges.due("without steps, too", Edges.with("bits 2 start 0:;").gap(0, 2), -2);
         Edges.due("without steps, too", Edges.with("bits 2 start 0:;").gap(0, -2), -2);
     }
 
+    @Says("NONE: there are none such;")
     static void p16_thereAreNoneSuch() {
         OneAtATime x = Edges.with("bits 2 start 0:;", "bits 2 start 0:01;", "bits 2 start 0:00;");
         for (int bit = -1; bit < 2; bit++) {
@@ -415,11 +446,13 @@ final class QuestionEdges {
 
     // ---- promise 17
 
+    @Says("-2.")
     static void p17_needsAList() {
         Edges.asksAList((x, slot) -> x.run(slot, 0, 0));
         Edges.asksAList((x, slot) -> x.run(slot, 1, 1));
     }
 
+    @Says("-2.")
     static void p17_bitsAndVsThatAreNone() {
         refuses("bit", (x, bit) -> x.run(0, bit, 0), Edges.LEAST, -1, 3, Edges.MOST);
         refuses("v", (x, v) -> x.run(0, 0, v), NO_FLAGS);
@@ -453,11 +486,13 @@ final class QuestionEdges {
 
     // ---- promise 18
 
+    @Says("-2.")
     static void p18_needsAList() {
         Edges.asksAList((x, slot) -> x.parts(slot, 0, 0));
         Edges.asksAList((x, slot) -> x.parts(slot, 1, 1));
     }
 
+    @Says("-2.")
     static void p18_bitsAndVsThatAreNone() {
         refuses("bit", (x, bit) -> x.parts(0, bit, 0), Edges.LEAST, -1, 3, Edges.MOST);
         refuses("v", (x, v) -> x.parts(0, 0, v), NO_FLAGS);
@@ -498,6 +533,7 @@ final class QuestionEdges {
         Edges.asksAList((x, slot) -> x.level(slot, 2, 1));
     }
 
+    @Says("-2.")
     static void p19_levelsAndLastsThatAreNone() {
         refuses("level", (x, l) -> x.level(0, l, 0), Edges.LEAST, -1, 4, Edges.MOST);
         refuses("last", (x, last) -> x.level(0, 0, last), NO_FLAGS);
@@ -509,6 +545,7 @@ final class QuestionEdges {
         }
     }
 
+    @Says("NONE: there is none such;")
     static void p19_noneOneAndMore() {
         OneAtATime x = Edges.with("bits 3 start 0:0;", "bits 3 start 0:000;", Edges.GRAY3);
         Edges.due("none", x.level(0, 2, 0), -1);
@@ -525,6 +562,7 @@ final class QuestionEdges {
 
     // ---- promise 20
 
+    @Says("-2.")
     static void p20_needsTwoLists() {
         Edges.asksAList((x, slot) -> x.same(slot, 0));
         Edges.asksAList((x, slot) -> x.same(0, slot));
@@ -553,6 +591,7 @@ final class QuestionEdges {
         Edges.asksAList((x, slot) -> x.shift(slot, 1));
     }
 
+    @Says("-2.")
     static void p21_bitsThatAreNoneAheadOfNone() {
         refuses("shift", (x, bit) -> x.shift(0, bit), Edges.LEAST, -1, 3, Edges.MOST);
         OneAtATime line = Edges.with("bits 2 start 0:;");
@@ -561,6 +600,7 @@ final class QuestionEdges {
         Edges.due("no loop", line.shift(0, 1), -1);
     }
 
+    @Says("NONE: by none, no LOOP;")
     static void p21_noLoopAndByNone() {
         OneAtATime x = Edges.with("bits 2 start 0:;", "bits 2 start 0:010;",
             "bits 2 start 0:00;");
@@ -589,6 +629,7 @@ final class QuestionEdges {
         Edges.asksAList((x, slot) -> x.apart(slot, 0, 4));
     }
 
+    @Says("-2: there are none such.")
     static void p22_placesThatAreNone() {
         refuses("place", (x, place) -> x.apart(0, place, 0), Edges.LEAST, -1, 9, Edges.MOST);
         refuses("other", (x, place) -> x.apart(0, 0, place), Edges.LEAST, -1, 9, Edges.MOST);
@@ -611,6 +652,7 @@ final class QuestionEdges {
 
     // ---- promise 23
 
+    @Says("-2.")
     static void p23_needsAList() {
         Edges.asksAList((x, slot) -> x.spread(slot));
     }
@@ -619,6 +661,7 @@ final class QuestionEdges {
         Edges.due("spread of " + text, Edges.with(text).spread(0), want);
     }
 
+    @Says("NONE: not for 1 (one WORD is SHOWN twice);")
     static void p23_oneWordShownTwice() {
         dueSpread("bits 3 start 0:000;", -1);
         dueSpread("bits 3 start 0:0100;", -1);
@@ -669,6 +712,7 @@ final class QuestionEdges {
         Edges.asksAList((x, slot) -> x.climbs(slot, 1, 1));
     }
 
+    @Says("-2 (l 0 .. N less 1).")
     static void p24_levelsAndUpsThatAreNone() {
         refuses("level", (x, l) -> x.climbs(0, l, 1), Edges.LEAST, -1, 3, Edges.MOST);
         refuses("level", (x, l) -> x.climbs(0, l, 0), Edges.LEAST, -1, 3, Edges.MOST);
@@ -701,6 +745,7 @@ final class QuestionEdges {
 
     // ---- promises 25 to 27
 
+    @Says("-2: a number below 0.")
     static void p25_belowZero() {
         refuses("code", OneAtATime::code, Edges.LEAST, Edges.LEAST + 1, -2, -1);
     }
@@ -716,6 +761,7 @@ final class QuestionEdges {
         Edges.stays("code", y -> y.code(5), 7);
     }
 
+    @Says("-2: a WORD below 0.")
     static void p26_belowZero() {
         refuses("rank", OneAtATime::rank, Edges.LEAST, Edges.LEAST + 1, -2, -1);
     }
@@ -734,6 +780,7 @@ final class QuestionEdges {
         Edges.stays("rank", y -> y.rank(7), 5);
     }
 
+    @Says("-2: i below 1.")
     static void p27_belowOne() {
         refuses("ruler", OneAtATime::ruler, Edges.LEAST, -2, -1, 0);
     }
@@ -752,6 +799,7 @@ final class QuestionEdges {
 
     // ---- promise 31
 
+    @Says("-2.")
     static void p31_needsAList() {
         Edges.asksAList((x, slot) -> x.open(slot));
     }
@@ -788,6 +836,7 @@ final class QuestionEdges {
         Edges.asksAList((x, slot) -> x.way(slot, 0, 3));
     }
 
+    @Says("-2.")
     static void p32_wordsThatAreNone() {
         refuses("word", (x, word) -> x.way(0, word, 0), Edges.LEAST, -1, 8, Edges.MOST);
         refuses("other", (x, word) -> x.way(0, 0, word), Edges.LEAST, -1, 8, Edges.MOST);
@@ -813,6 +862,7 @@ final class QuestionEdges {
         Edges.due("a free word between", x.way(1, 3, 6), 2);
     }
 
+    @Says("NONE: there is no such way;")
     static void p32_roundAboutAndNoWay() {
         // shown 0 1 3 7: from 0 to 7 by 2 6, or by 4 6, 4 5
         OneAtATime x = Edges.with("bits 3 start 0:012;", "bits 3 levels 0 to 2 start 0:01;",
@@ -832,6 +882,7 @@ final class QuestionEdges {
         Edges.asksAList((x, slot) -> x.evenest(slot, 1));
     }
 
+    @Says("-2.")
     static void p33_whatsThatAreNoneAheadOfAll() {
         for (int what : NO_FLAGS) {
             Edges.stays("a loop", x -> x.evenest(0, what), -2);
@@ -840,6 +891,7 @@ final class QuestionEdges {
         }
     }
 
+    @Says("-5: it has more than 16 STEPS;")
     static void p33_moreThan16Steps() {
         for (int what = 0; what < 2; what++) {
             Edges.due("15", Edges.with(Edges.turning(4, 15)).evenest(0, what), -6);
@@ -857,6 +909,7 @@ final class QuestionEdges {
         Edges.due("how much it is then", sixteen.uneven(0), least);
     }
 
+    @Says("-6: it is no FULL LOOP with A 0, B N;")
     static void p33_noFullLoopOfAllLevels() {
         String[] texts = {
             "bits 2 start 0:;", "bits 2 start 0:010;", "bits 2 start 0:00;",
@@ -915,6 +968,7 @@ final class QuestionEdges {
 
     // ---- promise 37
 
+    @Says("-2.")
     static void p37_needsAList() {
         Edges.asksAList((x, slot) -> x.twistable(slot));
     }
@@ -947,6 +1001,7 @@ final class QuestionEdges {
 
     // ---- promise 46
 
+    @Says("-2.")
     static void p46_needsTwoLists() {
         Edges.asksAList((x, slot) -> x.alike(slot, 0));
         Edges.asksAList((x, slot) -> x.alike(0, slot));

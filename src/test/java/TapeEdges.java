@@ -37,6 +37,7 @@ final class TapeEdges {
 
     // ---- promise 1
 
+    @Says("SLOTS have nothing.")
     static void p01_slotsHaveNothing() {
         OneAtATime x = new OneAtATime();
         Edges.due("slots", x.count(0), 0);
@@ -67,6 +68,7 @@ final class TapeEdges {
         p01_nothingToUndoNoTapeNoOutNoFault();
     }
 
+    @Says("An object is used for at most 512 calls after it has been made;")
     static void p01_the512thCallIsStillAnswered() {
         OneAtATime x = new OneAtATime();
         int calls = 3;
@@ -87,6 +89,7 @@ final class TapeEdges {
         Edges.due("feed", feedBlanks(new OneAtATime()), 20);
     }
 
+    @Says("how many it has;")
     static void p02_justBelow400AndAtIt() {
         Edges.due("379 and 20", feedBlanks(Edges.fresh(tapeOf(379))), 399);
         OneAtATime x = Edges.fresh(tapeOf(380));
@@ -94,6 +97,7 @@ final class TapeEdges {
         Edges.due("tape", x.count(2), 400);
     }
 
+    @Says("NONE, and none come, if it would have more than 400.")
     static void p02_noneComeAbove400() {
         for (int length : new int[] {381, 382, 399, 400}) {
             Edges.stays("feed behind " + length, tapeOf(length), TapeEdges::feedBlanks, -1);
@@ -115,6 +119,7 @@ final class TapeEdges {
         Edges.due("place", x.fault(1), 381);
     }
 
+    @Says("Twenty bytes come behind the TAPE,")
     static void p02_bytesComeBehindThoseThatAreThere() {
         OneAtATime x = new OneAtATime();
         TapeWriter.writes(x, "bits 3 ");
@@ -124,6 +129,7 @@ final class TapeEdges {
         Edges.due("told", x.told(0), 2);
     }
 
+    @Says("four of each number, the highest first:")
     static void p02_eachNumberTheHighestByteFirst() {
         for (int at = 0; at < 20; at++) {
             int[] numbers = {BLANKS, BLANKS, BLANKS, BLANKS, BLANKS};
@@ -146,12 +152,14 @@ final class TapeEdges {
 
     // ---- promise 3
 
+    @Says("or n is below 0.")
     static void p03_belowZero() {
         for (int n : new int[] {-1, -2, Edges.LEAST}) {
             Edges.stays("end " + n, x -> x.end(n), -1);
         }
     }
 
+    @Says("NONE, and nothing happens, if it has not so many,")
     static void p03_asManyAsThereAreAndOneMore() {
         for (int length : new int[] {0, 1, 20, 399, 400}) {
             Edges.stays("end " + length, tapeOf(length), x -> x.end(length), length);
@@ -171,6 +179,7 @@ final class TapeEdges {
         Edges.due("end", x.end(0), 0);
     }
 
+    @Says("The TAPE has its first n bytes alone: n;")
     static void p03_theFirstBytesAlone() {
         OneAtATime x = new OneAtATime();
         TapeWriter.writes(x, "bits 3 start 0:01;;");
@@ -184,6 +193,7 @@ final class TapeEdges {
 
     // ---- promise 4 (and what 'Terms' I says of a text)
 
+    @Says("-2: no such SLOT (the TAPE stays).")
     static void p04_noSuchSlotAndTheTapeStays() {
         for (int slot : new int[] {Edges.LEAST, -1, 3, Edges.MOST}) {
             Edges.stays("told " + slot, x -> x.told(slot), -2);
@@ -196,6 +206,7 @@ final class TapeEdges {
         Edges.due("slots", x.count(0), 4);
     }
 
+    @Says("SLOTS 0 .. 2.")
     static void p04_everySlotThereIs() {
         for (int slot = 0; slot < 3; slot++) {
             OneAtATime x = new OneAtATime();
@@ -205,6 +216,7 @@ final class TapeEdges {
         }
     }
 
+    @Says("-4: a FAULT (the TAPE is empty, all else stays);")
     static void p04_aFaultEmptiesTheTapeAndAllElseStays() {
         for (int slot = 0; slot < 3; slot++) {
             int into = slot;
@@ -236,6 +248,7 @@ final class TapeEdges {
         dueFault(TEXT_OF_400.substring(0, 399), 1, 399);
     }
 
+    @Says("STEPS (256 at most),")
     static void p04_stepsFromNoneTo256() {
         dueTold(Edges.turning(1, 0), "1 0 1 0:");
         dueTold(Edges.turning(1, 1), "1 0 1 0:0");
@@ -244,6 +257,7 @@ final class TapeEdges {
         dueFault(Edges.turning(1, 257), 4, 271);
     }
 
+    @Says("WORD: N bits (1 .. 8), a number;")
     static void p04_bitsFromOneToEight() {
         dueFault("bits 0 start 0:;", 2, 5);
         for (int n = 1; n <= 8; n++) {
@@ -278,6 +292,7 @@ final class TapeEdges {
         }
     }
 
+    @Says("Without levels: 0 to N.")
     static void p04_withoutLevelsZeroToN() {
         for (int n = 1; n <= 8; n++) {
             OneAtATime x = Edges.with("bits " + n + " start 0:;");
@@ -345,6 +360,7 @@ final class TapeEdges {
         }
     }
 
+    @Says("BITS: digits, one TOKEN, each a bit.")
     static void p04_bitsAreOneToken() {
         dueTold("bits 3 start 0: 012 ;", "3 0 3 0:012");
         dueFault("bits 3 start 0:01 2;", 1, 18);
@@ -402,6 +418,7 @@ final class TapeEdges {
 
     // ---- promise 5
 
+    @Says("NONE for another what,")
     static void p05_whatsThatAreNone() {
         for (int what : new int[] {Edges.LEAST, -1, 2, Edges.MOST}) {
             Edges.due("ahead of any", new OneAtATime().fault(what), -1);
@@ -410,6 +427,7 @@ final class TapeEdges {
         }
     }
 
+    @Says("and ahead of any (what 1).")
     static void p05_aheadOfAny() {
         OneAtATime x = new OneAtATime();
         Edges.due("fault", x.fault(0), 0);
@@ -419,6 +437,7 @@ final class TapeEdges {
         Edges.due("still ahead of any", x.fault(1), -1);
     }
 
+    @Says("Of the latest told() that was not -2,")
     static void p05_ofTheLatestThatWasNotRefused() {
         OneAtATime x = new OneAtATime();
         TapeWriter.tells(x, 0, "bits 3 start 0:3;");
@@ -436,6 +455,7 @@ final class TapeEdges {
         Edges.due("the first byte", x.fault(1), 0);
     }
 
+    @Says("(a TOKEN's; the end's) is least,")
     static void p05_theEndIsAtTheTapesLength() {
         String[] begun = {
             "", "bits", "bits 3", "bits 3 levels", "bits 3 levels 1", "bits 3 levels 1 to",
@@ -495,6 +515,7 @@ final class TapeEdges {
         dueFault("bits 3 start -1:;", 1, 13);
     }
 
+    @Says("FAULTS, of several the one whose first byte")
     static void p05_ofSeveralTheLeastByte() {
         dueFault("bits 9 levels 10 to 11 start 999:9", 2, 5);
         dueFault("bits 3 levels 4 to 5 start 8:9", 2, 14);
@@ -519,6 +540,7 @@ final class TapeEdges {
         dueFault(full + " 0;", 1, 272);
     }
 
+    @Says("of one byte the least number:")
     static void p05_ofOneByteTheLeastNumber() {
         String full = "bits 1 start 0:" + "0".repeat(256);
         dueFault(full + "1;", 3, 271);
@@ -528,6 +550,7 @@ final class TapeEdges {
 
     // ---- promise 6
 
+    @Says("NONE for others.")
     static void p06_whatsThatAreNone() {
         for (int what : new int[] {Edges.LEAST, -1, 4, Edges.MOST}) {
             Edges.stays("count " + what, x -> x.count(what), -1);
@@ -587,11 +610,13 @@ final class TapeEdges {
 
     // ---- promise 49
 
+    @Says("-2.")
     static void p49_needsAList() {
         Edges.needsList((x, slot) -> x.tell(slot, 0));
         Edges.needsList((x, slot) -> x.tell(slot, 1));
     }
 
+    @Says("-2.")
     static void p49_whatsThatAreNone() {
         for (int what : new int[] {Edges.LEAST, -1, 2, Edges.MOST}) {
             Edges.stays("tell " + what, x -> x.tell(0, what), -2);
@@ -682,6 +707,7 @@ final class TapeEdges {
 
     // ---- promise 50
 
+    @Says("empty ahead of any).")
     static void p50_emptyAheadOfAny() {
         OneAtATime x = Edges.with(Edges.GRAY3);
         for (int i : new int[] {Edges.LEAST, -1, 0, 1, Edges.MOST}) {
@@ -705,6 +731,7 @@ final class TapeEdges {
         Edges.due("behind it", x.octet(2313), -1);
     }
 
+    @Says("(what was told in it last by a call that was not refused, whatever came since;")
     static void p50_whateverCameSince() {
         String due = "01\n00\n10\n11\n";
         Edges.Call[] calls = {
