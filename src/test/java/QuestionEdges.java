@@ -178,6 +178,8 @@ final class QuestionEdges {
         dueIs("bits 2 start 0:0101;", 5, 1);
         // the first two are opposite, the second ones are not
         dueIs("bits 2 start 0:0110;", 5, 0);
+        // 3 and 3, 2 and 1: each bit is 1 in one of two words, but not in one alone
+        dueIs("bits 2 start 3:0011;", 5, 0);
         dueIs("bits 3 start 0:01201;", 5, 0);
         dueIs(Edges.LADDER3, 5, 1);
         dueIs("bits 3 start 0:012012012012;", 5, 0);

@@ -44,6 +44,7 @@ final class Sample {
         for (String steps : new String[] {"", "0", "00", "000", "0101", "010", "0011", "0110"}) {
             int n = steps.contains("1") ? 2 : 1;
             made.add(new Sample(n, 0, n, 0, steps));
+            made.add(new Sample(n, 0, n, (1 << n) - 1, steps));
             made.add(new Sample(n + 2, 1, 2, 5, steps));
         }
         for (String steps : new String[] {"01020102", "012012", "0102010", "10221200",
