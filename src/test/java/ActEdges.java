@@ -136,6 +136,7 @@ final class ActEdges {
         leaves("bits 4 levels 0 to 0 start 0:;", x -> x.finds(0, 0, 1), 0);
     }
 
+    @Says("Each STEP taken counts (not that back to START);")
     static void p29_aScopeOfTwoWordsAndTheStepBackDoesNotCount() {
         becomes("bits 1 start 1:;", x -> x.finds(0, 0, 1), 1, "1 0 1 1:0");
         becomes("bits 1 start 1:;", x -> x.finds(0, 1, 1), 2, "1 0 1 1:00");
@@ -143,6 +144,7 @@ final class ActEdges {
         becomes("bits 1 start 1:;", x -> x.finds(0, 3, 1), 2, "1 0 1 1:00");
     }
 
+    @Says("TOO LONG: more than told.")
     static void p29_justEnoughTriesAndOneFewer() {
         for (int law = 0; law < 4; law++) {
             int by = law;
@@ -369,6 +371,7 @@ final class ActEdges {
         leaves("bits 1 start 0:;", x -> x.tracks(0, 300, 1, 1), -2);
     }
 
+    @Says("Each STEP taken counts, the last one, too;")
     static void p34_justEnoughTriesAndOneFewer() {
         String text = "bits 3 start 1:;";
         becomes(text, x -> x.tracks(0, 2, 1, 2), 6, "3 0 3 1:102102");
@@ -378,6 +381,7 @@ final class ActEdges {
         becomes(text, x -> x.tracks(0, 2, 2, 3), 6, "3 0 3 1:201201");
     }
 
+    @Says("a STEP to START rolled ahead of the last is none.")
     static void p34_thereAreNoneSuchAndTooLongToKnow() {
         // 3 and 5 are tried; from both there is but the start, it rolled, and 7, itself rolled
         leaves("bits 3 start 1:;", x -> x.tracks(0, 4, 1, 1), -3);
@@ -388,6 +392,7 @@ final class ActEdges {
         leaves("bits 4 start 1:;", x -> x.tracks(0, 4, 1, 6), -1);
     }
 
+    @Says("from START on p STEPS, the least bit first,")
     static void p34_theLeastBitFirst() {
         // 6 to 7 to 3 is tried first, and is the one
         leaves("bits 4 start 6:;", x -> x.tracks(0, 2, 3, 1), -3);
@@ -404,6 +409,7 @@ final class ActEdges {
         Edges.due("just enough again", x.tracks(1, 2, 3, 2), 8);
     }
 
+    @Says("(START, too) is another one of them, or itself, rolled")
     static void p34_aStartThatIsItselfRolled() {
         leaves("bits 3 start 0:;", x -> x.tracks(0, 2, 1, 50000), -1);
         leaves("bits 3 start 7:;", x -> x.tracks(0, 2, 1, 50000), -1);
@@ -476,6 +482,7 @@ final class ActEdges {
         Edges.stays("too much", wide, x -> x.product(0, 0, 0), -5);
     }
 
+    @Says("PRODUCT: bits of the other LIST lie behind those of the one (by N more);")
     static void p35_withoutSteps() {
         OneAtATime x = Edges.with("bits 2 start 3:;", "bits 3 start 5:201;");
         Edges.due("of the other alone", x.product(0, 1, 2), 3);
@@ -484,6 +491,8 @@ final class ActEdges {
         Edges.dueText("list", Edges.list(x, 2), "5 0 5 29:201");
     }
 
+    @Says({"all STEPS of the one, a STEP of the other one, all STEPS of the one back, the next STEP"
+        + " of the other one, and so on, at the end all of the one once more (on or back)."})
     static void p35_onAndBackInTurn() {
         OneAtATime x = Edges.with("bits 2 start 0:01;", "bits 1 start 0:0;");
         for (int steps = 1; steps <= 4; steps++) {
@@ -494,6 +503,7 @@ final class ActEdges {
         }
     }
 
+    @Says("A is 0, B is N.")
     static void p35_theLevelsBecomeAllAndTheStartIsBoth() {
         OneAtATime x = Edges.with("bits 4 levels 2 to 3 start 15:0;",
             "bits 4 levels 1 to 1 start 15:3;");
@@ -554,6 +564,7 @@ final class ActEdges {
             "8 0 8 0:7" + new StringBuilder(inner).reverse() + "0");
     }
 
+    @Says("-6: these have not one bit unlike;")
     static void p36_notOneBitUnlike() {
         // both pairs, the first alone, the second alone
         leaves(Edges.GRAY3, x -> x.twists(0, 0, 2), -6);
@@ -729,6 +740,7 @@ final class ActEdges {
         leaves("bits 1 start 0:0000;", x -> x.rolls(0, 2), 0);
     }
 
+    @Says("-6: it is no LOOP;")
     static void p43_noLoop() {
         leaves("bits 3 start 0:01;", x -> x.rolls(0, 0), -6);
         leaves("bits 3 start 0:01;", x -> x.rolls(0, 1), -6);

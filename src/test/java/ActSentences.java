@@ -271,50 +271,151 @@ final class ActSentences {
         return most - least;
     }
 
-    @Says({"EXTENDED by cuts (bits of places): N then.",
-        "EXTENDED: places of a LOOP of M STEPS, 0 .. M less 1, are cut behind those told in cuts"
-        + " into parts, oddly many.",
-        "Part by part: its STEPS on, a bit, its STEPS back, the other bit, its STEPS on again (the"
-        + " bits N, N + 1 in the first part, the other way round in the second, and so on in"
-        + " turn), then, but behind the last part, the STEP to the next part. Then bit N; all"
-        + " STEPS from the last place back to place 0; bit N + 1.",
-        "extended by two bits so that it is cut as one likes;"})
-    static void p30_partByPart() {
-        for (String loop : new String[] {"0101", "01020102", "01210121", "20102010"}) {
-            int n = loop.contains("2") ? 3 : 2;
-            Sample before = new Sample(n, 0, n, 2, loop);
-            for (long cuts = 0; cuts < 1L << loop.length() - 1; cuts++) {
-                OneAtATime x = with(before);
-                long some = cuts;
+    private static final String[] WHOLE_LOOPS = {
+        "00", "0101", "01020102", "01210121", "20102010", "02010201",
+    };
+
+    private interface CutLoop {
+        void looked(Sample loop, long cuts, OneAtATime x);
+    }
+
+    /** Every loop, extended by all cuts that are evenly many. */
+    private static void eachExtended(CutLoop look) {
+        for (String steps : WHOLE_LOOPS) {
+            int n = steps.contains("2") ? 3 : steps.contains("1") ? 2 : 1;
+            Sample loop = new Sample(n, 0, n, n - 1, steps);
+            for (long cuts = 0; cuts < 1L << loop.size - 1; cuts++) {
                 if (Long.bitCount(cuts) % 2 == 0) {
-                    due(before, "extend " + cuts, x.extend(0, cuts), n + 2);
-                    dueList(before, "extend " + cuts, x,
-                        new Sample(n + 2, 0, n + 2, 2, extended(loop, n, cuts)));
-                    due(before, "full " + cuts, x.is(0, 2), 1);
-                } else {
-                    due(before, "oddly many " + some, x.extend(0, some), -2);
+                    OneAtATime x = with(loop);
+                    due(loop, "extend " + cuts, x.extend(0, cuts), n + 2);
+                    look.looked(loop, cuts, x);
                 }
             }
         }
+    }
+
+    @Says({"EXTENDED by cuts (bits of places): N then.",
+        "extended by two bits so that it is cut as one likes;"})
+    static void p30_byAllCuts() {
+        eachExtended((loop, cuts, x) -> {
+            Sample want = new Sample(loop.n + 2, 0, loop.n + 2, loop.start,
+                extended(loop.steps, loop.n, cuts));
+            dueList(loop, "extend " + cuts, x, want);
+            due(loop, "full " + cuts, x.is(0, 2), 1);
+        });
         String wide = Edges.reflected(6);
-        String loop = wide.substring(wide.indexOf(':') + 1, wide.length() - 1);
+        String steps = wide.substring(wide.indexOf(':') + 1, wide.length() - 1);
         for (long cuts : new long[] {0L, 5L, 1L << 62 | 1L << 31, 0x5555555555555555L}) {
             OneAtATime x = Edges.with(wide);
             Edges.due("extend", x.extend(0, cuts), 8);
-            Edges.dueText("extended by " + cuts, Edges.steps(x, 0), extended(loop, 6, cuts));
+            Edges.dueText("extended by " + cuts, Edges.steps(x, 0), extended(steps, 6, cuts));
         }
     }
 
-    @Says({"Bits N and N + 1 begin as 0.", "START stays; A is 0, B is N + 2."})
-    static void p30_newBitsStartAndLevels() {
-        for (int n = 1; n <= 5; n++) {
+    /** How often steps go between the words of two places of a loop, whatever the new bits are. */
+    private static int between(OneAtATime x, Sample loop, int place) {
+        int all = (1 << loop.n) - 1;
+        int one = loop.words[place];
+        int two = loop.words[place + 1];
+        int found = 0;
+        for (int i = 0; i < x.look(0, 4); i++) {
+            int from = x.word(0, i) & all;
+            int to = x.word(0, i + 1) & all;
+            found += from == one && to == two || from == two && to == one ? 1 : 0;
+        }
+        return found;
+    }
+
+    @Says({"EXTENDED: places of a LOOP of M STEPS, 0 .. M less 1, are cut behind those told in cuts"
+        + " into parts, oddly many."})
+    static void p30_cutBehindThoseTold() {
+        eachExtended((loop, cuts, x) -> {
+            // a step within a part is gone three times and back at the end, one at a cut but once
+            for (int place = 0; place + 1 < loop.size && loop.n > 1; place++) {
+                OneAtATime y = with(loop);
+                y.extend(0, cuts);
+                boolean cut = (cuts >> place & 1) == 1;
+                due(loop, "cut by " + cuts + " behind " + place, between(y, loop, place),
+                    cut ? 2 : 4);
+            }
+            // each part turns both new bits once, and so do those behind the last
+            int parts = Long.bitCount(cuts) + 1;
+            due(loop, "parts by " + cuts, x.turned(0, loop.n), parts + 1);
+            due(loop, "parts by " + cuts, x.turned(0, loop.n + 1), parts + 1);
+            due(loop, "oddly many", (x.turned(0, loop.n) - 1) % 2, 1);
+        });
+    }
+
+    @Says("Bits N and N + 1 begin as 0.")
+    static void p30_newBitsBeginAsZero() {
+        eachExtended((loop, cuts, x) -> {
+            due(loop, "bit N", x.word(0, 0) >> loop.n & 1, 0);
+            due(loop, "bit N + 1", x.word(0, 0) >> loop.n + 1, 0);
+        });
+    }
+
+    /** The words of all parts, one behind the other, as the document goes through them. */
+    private static List<Integer> wordsOfParts(Sample loop, long cuts) {
+        List<Integer> words = new ArrayList<>();
+        int high = 0;
+        int from = 0;
+        int parts = 0;
+        for (int place = 0; place < loop.size; place++) {
+            if (place == loop.size - 1 || (cuts >> place & 1) == 1) {
+                int one = 1 << loop.n + parts % 2;
+                int other = 1 << loop.n + 1 - parts % 2;
+                for (int i = from; i <= place; i++) {
+                    words.add(loop.words[i] | high);
+                }
+                for (int i = place; i >= from; i--) {
+                    words.add(loop.words[i] | high ^ one);
+                }
+                for (int i = from; i <= place; i++) {
+                    words.add(loop.words[i] | high ^ one ^ other);
+                }
+                high ^= one ^ other;
+                from = place + 1;
+                parts++;
+            }
+        }
+        return words;
+    }
+
+    @Says({"Part by part: its STEPS on, a bit, its STEPS back, the other bit, its STEPS on again"
+        + " (the bits N, N + 1 in the first part, the other way round in the second, and so on in"
+        + " turn), then, but behind the last part, the STEP to the next part."})
+    static void p30_partByPart() {
+        eachExtended((loop, cuts, x) -> {
+            List<Integer> words = wordsOfParts(loop, cuts);
+            due(loop, "places of parts by " + cuts, words.size(), 3 * loop.size);
+            for (int place = 0; place < words.size(); place++) {
+                due(loop, "word " + place + " by " + cuts, x.word(0, place), words.get(place));
+            }
+        });
+    }
+
+    @Says("Then bit N; all STEPS from the last place back to place 0; bit N + 1.")
+    static void p30_thenAllBack() {
+        eachExtended((loop, cuts, x) -> {
+            int m = loop.size;
+            due(loop, "steps by " + cuts, x.look(0, 4), 4 * m);
+            due(loop, "bit N by " + cuts, x.step(0, 3 * m - 1), loop.n);
+            for (int back = 0; back < m - 1; back++) {
+                due(loop, "back by " + cuts, x.step(0, 3 * m + back), loop.bit(m - 2 - back));
+            }
+            due(loop, "bit N + 1 by " + cuts, x.step(0, 4 * m - 1), loop.n + 1);
+        });
+    }
+
+    @Says("START stays; A is 0, B is N + 2.")
+    static void p30_startAndLevels() {
+        for (int n = 1; n <= 6; n++) {
             String text = Edges.reflected(n);
             for (int start = 0; start < 1 << n; start += n) {
                 OneAtATime x = Edges.with(text);
                 x.starts(0, start);
                 Edges.due("extend", x.extend(0, 0L), n + 2);
                 Edges.due("the start stays", x.look(0, 3), start);
-                Edges.due("bits N and N + 1", x.word(0, 0) >> n, 0);
                 Edges.due("N", x.look(0, 0), n + 2);
                 Edges.due("A", x.look(0, 1), 0);
                 Edges.due("B", x.look(0, 2), n + 2);
@@ -365,13 +466,9 @@ final class ActSentences {
         }
     }
 
-    @Says({"TRACKED: p STEPS are searched and told N times, the bits rolled by r each time: how"
-        + " many STEPS there are.", "NONE: there are none such; -3: it is TOO LONG;",
-        "TRACKED: from START on p STEPS, the least bit first, to WORDS none of which (START, too)"
-        + " is another one of them, or itself, rolled (bit b to b and d modulo N, d 1 .. N less"
-        + " 1), the last to START rolled by r; told again N less 1 times, the bits each time r"
-        + " more modulo N. Each STEP taken counts, the last one, too; TOO LONG: more than told; a"
-        + " STEP to START rolled ahead of the last is none."})
+    @Says({"NONE: there are none such; -3: it is TOO LONG;",
+        "Each STEP taken counts, the last one, too; TOO LONG: more than told; a STEP to START"
+        + " rolled ahead of the last is none."})
     static void p34_theFirstThatIsFound() {
         int[][] steps = {{2, 1}, {3, 1}, {3, 2}, {4, 1}, {4, 3}, {5, 2}};
         int found = 0;
@@ -387,6 +484,71 @@ final class ActSentences {
             }
         }
         Edges.due("some are found", found > 20 ? 1 : 0, 1);
+    }
+
+    private interface FoundTracks {
+        void looked(Sample before, int p, int r, OneAtATime x);
+    }
+
+    /** Every start of some widths with the p and r for which there is such a list. */
+    private static void eachTracked(FoundTracks look) {
+        int[][] steps = {{3, 2}, {4, 2}, {5, 2}, {5, 4}, {5, 6}, {6, 4}, {7, 6}, {8, 4}};
+        int found = 0;
+        for (int[] by : steps) {
+            for (int start = 1; start < 1 << by[0]; start += 1 + by[0] / 5 * 4) {
+                Sample before = new Sample(by[0], 1, 2, start, "01");
+                for (int r = 1; r < by[0]; r++) {
+                    OneAtATime x = with(before);
+                    if (x.tracks(0, by[1], r, 2000) > 0) {
+                        look.looked(before, by[1], r, x);
+                        found++;
+                    }
+                }
+            }
+        }
+        Edges.due("lists are found", found > 100 ? 1 : 0, 1);
+    }
+
+    @Says({"TRACKED: p STEPS are searched and told N times, the bits rolled by r each time: how"
+        + " many STEPS there are.",
+        "told again N less 1 times, the bits each time r more modulo N."})
+    static void p34_toldNTimesTheBitsRolled() {
+        eachTracked((before, p, r, x) -> {
+            due(before, "steps", x.look(0, 4), before.n * p);
+            due(before, "the answer again", x.tracks(0, p, r, 50000), before.n * p);
+            for (int i = 0; i < p * (before.n - 1); i++) {
+                due(before, "step " + (i + p), x.step(0, i + p), (x.step(0, i) + r) % before.n);
+            }
+            due(before, "the start", x.look(0, 3), before.start);
+            due(before, "A", x.look(0, 1), before.a);
+            due(before, "B", x.look(0, 2), before.b);
+        });
+    }
+
+    @Says({"to WORDS none of which (START, too) is another one of them, or itself, rolled (bit b to"
+        + " b and d modulo N, d 1 .. N less 1), the last to START rolled by r;"})
+    static void p34_noneIsAnotherOneRolled() {
+        eachTracked((before, p, r, x) -> {
+            for (int place = 0; place < p; place++) {
+                for (int other = 0; other <= place; other++) {
+                    for (int d = other == place ? 1 : 0; d < before.n; d++) {
+                        boolean one = rolled(x.word(0, place), d, before.n) == x.word(0, other);
+                        due(before, place + " is " + other + " rolled by " + d, one ? 1 : 0, 0);
+                    }
+                }
+            }
+            due(before, "the last", x.word(0, p), rolled(before.start, r, before.n));
+        });
+    }
+
+    @Says({"TRACKED: from START on p STEPS, the least bit first,"})
+    static void p34_noLesserStepsWouldDo() {
+        eachTracked((before, p, r, x) -> {
+            if (before.n <= 5 && p <= 4) {
+                Found due = search(before, new Tracked(p, r));
+                dueList(before, "tracks " + p + " by " + r, x, due.list());
+            }
+        });
     }
 
     @Says("tracks that are one another rolled,")
@@ -448,7 +610,7 @@ final class ActSentences {
 
     @Says({"A TWIST: the WORDS at places i and 1 to j are turned round (i below j, j below STEPS),"
         + " so that the one at i is followed by that at j, that at i and 1 by that at j and 1: how"
-        + " many STEPS there are. -6: these have not one bit unlike;"})
+        + " many STEPS there are."})
     static void p36_wordsTurnedRound() {
         int twisted = 0;
         for (Sample s : Sample.some()) {
@@ -563,8 +725,7 @@ final class ActSentences {
         }
     }
 
-    @Says({"A LOOP begins at a place (0 .. STEPS less 1): the START then. -6: it is no LOOP;",
-        "rolled,"})
+    @Says({"A LOOP begins at a place (0 .. STEPS less 1): the START then.", "rolled,"})
     static void p43_fromEachPlace() {
         for (Sample s : Sample.some()) {
             for (int place = 0; place < s.size; place++) {

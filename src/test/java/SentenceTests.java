@@ -4,7 +4,8 @@ import java.util.TreeSet;
 
 /**
  * Runs what the sentences of the document are tested by, and fails if the document has a word that
- * no test of its promise quotes, or a test a word that the document has not.
+ * no test of its promise quotes, or a sentence that every test quotes only beside others of its
+ * section, or a test a word that the document has not.
  */
 public final class SentenceTests {
     private static final Class<?>[] TESTS = {
@@ -18,9 +19,10 @@ public final class SentenceTests {
     private static final String[] FREE = {
         "what later calls answer is free.",
         "How the state is held inside the object is free, as are the speed of each call, the text"
-        + " of toString and the behaviour of equals and hashCode. Use of one object from several"
-        + " threads at once is not promised to be safe. Nothing is promised beyond the answers and"
-        + " state changes described above, and nothing about an object after its 512th call.",
+        + " of toString and the behaviour of equals and hashCode.",
+        "Use of one object from several threads at once is not promised to be safe.",
+        "Nothing is promised beyond the answers and state changes described above, and nothing"
+        + " about an object after its 512th call.",
     };
 
     private SentenceTests() {
@@ -55,10 +57,14 @@ public final class SentenceTests {
             wrong += quotes(document, tests);
         }
         for (String free : FREE) {
-            wrong += document.quotes(0, free) ? 0 : complains("the document lacks: " + free);
+            wrong += document.quotes("free: " + free, 0, free) ? 0
+                : complains("the document lacks: " + free);
         }
         for (String piece : document.unquoted()) {
             wrong += complains("no test says " + piece);
+        }
+        for (String sentence : document.withoutTheirOwn()) {
+            wrong += complains("no test of its own: " + sentence);
         }
         return wrong;
     }
@@ -70,7 +76,7 @@ public final class SentenceTests {
             if (says != null) {
                 int promise = Integer.parseInt(method.getName().substring(1, 3));
                 for (String words : says.value()) {
-                    wrong += document.quotes(promise, words) ? 0
+                    wrong += document.quotes(method.getName(), promise, words) ? 0
                         : complains(method.getName() + " quotes what is not there: " + words);
                 }
             }

@@ -529,6 +529,7 @@ final class TapeEdges {
         dueFault("bits 3 start 0:93;", 3, 15);
     }
 
+    @Says("4 a 257th bit, at it.")
     static void p05_the257thBit() {
         String full = "bits 1 start 0:" + "0".repeat(256);
         dueFault(full + "0;", 4, 271);
@@ -715,6 +716,7 @@ final class TapeEdges {
         }
     }
 
+    @Says("NONE: there is none such.")
     static void p50_belowTheFirstAndBehindTheLast() {
         for (int i : new int[] {Edges.LEAST, -1, 12, 13, Edges.MOST}) {
             Edges.stays("octet " + i, x -> x.octet(i), -1);

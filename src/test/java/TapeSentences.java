@@ -174,6 +174,48 @@ final class TapeSentences {
         }
     }
 
+    @Says("2 a number out of its bounds (N; A 0 .. N; B A .. N; S a WORD).")
+    static void p05_everyNumberAtItsBounds() {
+        int[] starts = {0, 1, 2, 3, 4, 7, 8, 15, 16, 31, 32, 63, 64, 127, 128, 255, 256, 511};
+        for (int n = 0; n <= 9; n++) {
+            for (int a = 0; a <= 9; a++) {
+                for (int b = 0; b <= 9; b++) {
+                    for (int start : starts) {
+                        dueNumbers(n, a, b, start);
+                    }
+                }
+            }
+        }
+    }
+
+    private static void dueNumbers(int n, int a, int b, int start) {
+        String text = "bits " + n + " levels " + a + " to " + b + " start " + start + ":;";
+        int place = n < 1 || n > 8 ? 5
+            : a > n ? 14
+            : b < a || b > n ? 19
+            : start >= 1 << n ? 27 : -1;
+        OneAtATime x = new OneAtATime();
+        Edges.due("told " + text, TapeWriter.tells(x, 0, text), place < 0 ? 0 : -4);
+        Edges.due("fault of " + text, x.fault(0), place < 0 ? 0 : 2);
+        Edges.due("its place in " + text, x.fault(1), place);
+    }
+
+    @Says("3 a bit that is not below N, at it.")
+    static void p05_everyBitAtEveryPlace() {
+        for (int n = 1; n <= 8; n++) {
+            for (int bit = 0; bit <= 9; bit++) {
+                for (int ahead : new int[] {0, 1, 2, 255}) {
+                    String text = "bits " + n + " start 0:" + "0".repeat(ahead) + bit + ";";
+                    OneAtATime x = new OneAtATime();
+                    Edges.due("told " + text, TapeWriter.tells(x, 0, text),
+                        bit < n ? ahead + 1 : -4);
+                    Edges.due("fault of " + text, x.fault(0), bit < n ? 0 : 3);
+                    Edges.due("its place in " + text, x.fault(1), bit < n ? -1 : 15 + ahead);
+                }
+            }
+        }
+    }
+
     @Says("TOKENS, blanks (32, 10) aside, the longest: words (a .. z), digits, else single bytes.")
     static void p05_tokensByTheirKinds() {
         // each text is faulty at its second token alone, whose place tells where the first one ends
